@@ -25,6 +25,9 @@ public final class GrowingBook {
     // Spoiled codes can be read as phrases of 1, 2, 3 .. signs, each of them longer by one than the one ahead.
     private static final int MOST_READ = MOST_CODES * (MOST_CODES + 1) / 2;
 
+    // Above the bits of all codes and above all signs, so that the first one that is looked at is fewer.
+    private static final int ABOVE_ALL = 1 << 30;
+
     private static final int[] LOWEST = {4, 0, 4};
     private static final int[] HIGHEST = {9, 2, 32};
     private static final int[] FIRST = {6, 1, 8};
@@ -231,7 +234,7 @@ public final class GrowingBook {
         }
         int bestWidest = NONE;
         int bestPolicy = NONE;
-        int fewest = Integer.MAX_VALUE;
+        int fewest = ABOVE_ALL;
         for (int widest = LOWEST[WIDEST]; widest <= HIGHEST[WIDEST]; widest++) {
             for (int policy = LOWEST[POLICY]; policy <= HIGHEST[POLICY]; policy++) {
                 int bits = trialBits(now.length, widest, policy);
@@ -250,7 +253,7 @@ public final class GrowingBook {
             return BAD_VALUE;
         }
         int tender = 0;
-        int fewest = Integer.MAX_VALUE;
+        int fewest = ABOVE_ALL;
         // No code can leave fewer signs than none, so the search may end there.
         for (int code = 0; code < writer.codes && fewest > 0; code++) {
             int left = signsLeft(code);
@@ -270,7 +273,7 @@ public final class GrowingBook {
             return NOT_POSSIBLE;
         }
         int cheap = 0;
-        int fewest = Integer.MAX_VALUE;
+        int fewest = ABOVE_ALL;
         for (int sign = 0; sign < SIGNS; sign++) {
             // What stands behind the end of the message is no part of it: it may be written over.
             now.signs[now.length] = sign;
@@ -531,7 +534,7 @@ public final class GrowingBook {
         final int[] shorter = new int[MOST_ENTRIES];
         final int[] lastSigns = new int[MOST_ENTRIES];
         final int[] lengths = new int[MOST_ENTRIES];
-        // 0 where there is none: 0 is the number of a single sign, which is longer than nothing.
+        // 0 where there is none, as no phrase has the number 0.
         final int[] longer = new int[MOST_ENTRIES * SIGNS];
         int entries;
 
@@ -588,6 +591,7 @@ public final class GrowingBook {
         int clears;
         int longest;
         private int full;
+        // Holds only while the book is full.
         private int firstSinceFull;
 
         void writeOut(int[] signs, int length, int widest, int policy, int window) {
@@ -616,7 +620,6 @@ public final class GrowingBook {
             bits = 0;
             clears = 0;
             longest = 0;
-            firstSinceFull = 0;
         }
 
         private void writeCode(int number, int place, int length) {

@@ -1,0 +1,54 @@
+import java.nio.charset.StandardCharsets;
+import java.nio.file.Files;
+import java.nio.file.Path;
+import java.util.ArrayList;
+import java.util.List;
+import java.util.regex.Matcher;
+import java.util.regex.Pattern;
+
+/** The rules of LANGUAGE.md that can be seen from the source's text. It is run from the project's folder. */
+public final class LanguageTest {
+    private static final Due DUE = new Due();
+
+    public static void main(String[] arguments) throws Exception {
+        String source = Files.readString(Path.of("src/main/java/GrowingBook.java"), StandardCharsets.UTF_8);
+        String code = source.replaceAll("(?s)/\\*.*?\\*/|//[^\\n]*", "").replaceAll("'[^']*'", "' '");
+        DUE.is("signs above 126", source.chars().filter(sign -> sign > 126).count(), 0);
+        none(code, "\\b(throw|throws|try|catch|finally|synchronized|assert|package|goto|var|double|float)\\b", "6, 3");
+        none(code, "->|::|@|\\bequals\\b|\\bhashCode\\b|\\btoString\\b", "2, 6");
+        none(code, "\\w+Exact\\b|\\bInteger\\.[A-Z]|\\bLong\\.[A-Z]|\\bSystem\\.(?!arraycopy\\()", "4");
+        none(code, "\\bArrays\\.(?!fill\\(|copyOf\\(|copyOfRange\\()", "4");
+        none(code, "\\bMath\\.(?!min\\(|max\\(|abs\\()", "4");
+        none(code, "\\bimport (?!java\\.util\\.(Arrays|ArrayList|List|Iterator);)", "4");
+        none(code, "\\bstatic \\{", "5");
+        none(code, "\\bstatic (?!final )(?!.*\\()(?!.*class)", "5");
+        none(code, "\\bnew (?!int\\[|boolean\\[|State\\b|History\\b|Pad\\b|Book\\b|Writer\\b|Reader\\b)", "4");
+        shortMethods(code);
+        DUE.end("LanguageTest");
+    }
+
+    private static void none(String code, String pattern, String rule) {
+        Matcher matcher = Pattern.compile(pattern).matcher(code);
+        boolean found = matcher.find();
+        DUE.same("rule " + rule, found ? matcher.group() : "kept", "kept");
+    }
+
+    private static void shortMethods(String code) {
+        String[] lines = code.split("\n");
+        List<String> methods = new ArrayList<>();
+        for (int i = 0; i < lines.length; i++) {
+            Matcher head = Pattern.compile("( {4}| {8})(?! )[\\w\\[\\] ]*?(\\w+)\\(([^()]*)\\) \\{").matcher(lines[i]);
+            if (!head.matches() || head.group(2).matches("if|for|while|switch")) {
+                continue;
+            }
+            int end = i;
+            while (!lines[end].equals(head.group(1) + "}")) {
+                end++;
+            }
+            methods.add(head.group(2));
+            DUE.is(head.group(2) + " is short", end - i < 60 ? 1 : 0, 1);
+            DUE.is(head.group(2) + " has few parameters", head.group(3).split(",").length <= 7 ? 1 : 0, 1);
+        }
+        DUE.is("methods were found", methods.size() > 40 ? 1 : 0, 1);
+    }
+}
