@@ -764,7 +764,7 @@ public final class GrowingBook {
 
         // Sign by sign from the front: the last sign of a phrase that is not finished yet is the first one read here.
         private void readPhrase(int begin, int length) {
-            for (int place = begin; place < begin + length; place++) {
+            for (int place = begin; place < begin + length && place < many; place++) {
                 readSign(signs[place]);
             }
         }

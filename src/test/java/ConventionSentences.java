@@ -123,12 +123,14 @@ final class ConventionSentences {
         onUsed("add(1, 0)", GrowingBook.BAD_VALUE, book -> book.add(1, 0));
         onUsed("add(1, 231)", GrowingBook.TOO_MANY, book -> book.add(1, 231));
         onUsed("cut(0)", GrowingBook.BAD_VALUE, book -> book.cut(0));
+        onUsed("cut(241)", GrowingBook.BAD_VALUE, book -> book.cut(241));
         onUsed("cut(11)", GrowingBook.NOT_POSSIBLE, book -> book.cut(11));
         onUsed("spoil(40, 1)", GrowingBook.NO_SUCH, book -> book.spoil(40, 1));
         onUsed("spoil(1, 0)", GrowingBook.BAD_VALUE, book -> book.spoil(1, 0));
         onUsed("spoil(1, 512)", GrowingBook.BAD_VALUE, book -> book.spoil(1, 512));
         onUsed("put(0)", GrowingBook.BAD_VALUE, book -> book.put(0));
         onUsed("put of a and 127", GrowingBook.BAD_VALUE, book -> book.put('a' << 8 | 127));
+        onUsed("put of a, 0 and b", GrowingBook.BAD_VALUE, book -> book.put('a' << 16 | 'b'));
         onUsed("load()", GrowingBook.BAD_TEXT, GrowingBook::load);
         onUsed("sign(10)", GrowingBook.NO_SUCH, book -> book.sign(10));
         onUsed("ofCode(40, 0)", GrowingBook.NO_SUCH, book -> book.ofCode(40, 0));
@@ -139,6 +141,7 @@ final class ConventionSentences {
         onUsed("reading(6)", GrowingBook.BAD_VALUE, book -> book.reading(6));
         onUsed("read(99)", GrowingBook.NO_SUCH, book -> book.read(99));
         onUsed("bitsWith(3, 1)", GrowingBook.BAD_VALUE, book -> book.bitsWith(3, 1));
+        onUsed("bitsWith(4, 3)", GrowingBook.BAD_VALUE, book -> book.bitsWith(4, 3));
         onUsed("best(3)", GrowingBook.BAD_VALUE, book -> book.best(3));
         onUsed("tenderest(2)", GrowingBook.BAD_VALUE, book -> book.tenderest(2));
         onUsed("cheapest(2)", GrowingBook.BAD_VALUE, book -> book.cheapest(2));

@@ -108,6 +108,7 @@ final class ReadingSentences {
         reads("aba", spoiled("abcd", 2, 10, 3, 12), "abab" + "aba", 13);
         reads("since CLEAR", spoiled("abcd", 1, 8, 3, 10), "accc", 11);
         reads("of a message as it was written", spoiled("cdcdcdc"), "cdcdcdc", 13);
+        reads("the last phrase that fits, as it was written", spoiled(4, 0, "a".repeat(28)), "a".repeat(28), 16);
         reads("the last phrase that fits", spoiled(4, 0, "abcdefgh", 6, 15), "abcdefffh", 16);
     }
 

@@ -391,9 +391,13 @@ final class TextSentences {
         book.cut(1);
         due.is("load() of one more to 239", book.load(), 240);
         due.is("the last sign", book.sign(239), 2);
-        GrowingBook short2 = Books.typed("4(60a)");
-        short2.add(1, 1);
-        due.is("load() of 240 to 1", short2.load(), GrowingBook.TOO_MANY);
-        due.is("length of the pad", short2.count(7), 6);
+        due.is("load() of 240, a sign last", Books.typed("60(3a)60b").load(), 240);
+        due.is("load() of 241, a sign last", Books.typed("60(3a)60bc").load(), GrowingBook.TOO_MANY);
+        due.is("load() of 240, parentheses last", Books.typed("60b60(3a)").load(), 240);
+        due.is("load() of 241, parentheses last", Books.typed("60bc60(3a)").load(), GrowingBook.TOO_MANY);
+        GrowingBook one = Books.typed("4(60a)");
+        one.add(1, 1);
+        due.is("load() of 240 to 1", one.load(), GrowingBook.TOO_MANY);
+        due.is("length of the pad", one.count(7), 6);
     }
 }
