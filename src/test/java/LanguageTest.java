@@ -1,3 +1,6 @@
+import java.lang.reflect.Field;
+import java.lang.reflect.Method;
+import java.lang.reflect.Modifier;
 import java.nio.charset.StandardCharsets;
 import java.nio.file.Files;
 import java.nio.file.Path;
@@ -6,7 +9,7 @@ import java.util.List;
 import java.util.regex.Matcher;
 import java.util.regex.Pattern;
 
-/** The rules of LANGUAGE.md that can be seen from the source's text. It is run from the project's folder. */
+/** The rules of LANGUAGE.md that can be seen from the source's text, or from the classes. It is run from the project's folder. */
 public final class LanguageTest {
     private static final Due DUE = new Due();
 
@@ -25,7 +28,32 @@ public final class LanguageTest {
         String own = "ArrayList|StringBuilder|" + ownClasses(code);
         none(code, "\\bnew (?!(int|long|short|byte|char|boolean|String)\\[|String\\(|(" + own + ")\\b)", "4");
         shortMethods(code);
+        namesAndSizes();
         DUE.end("LanguageTest");
+    }
+
+    /** No private method bears the name of a public one; few classes, of few fields; what is static is final. */
+    private static void namesAndSizes() {
+        List<Class<?>> classes = new ArrayList<>(List.of(GrowingBook.class.getDeclaredClasses()));
+        classes.add(GrowingBook.class);
+        DUE.is("few classes", classes.size() <= 12 ? 1 : 0, 1);
+        List<String> face = new ArrayList<>();
+        for (Method method : GrowingBook.class.getMethods()) {
+            face.add(method.getName());
+        }
+        for (Class<?> of : classes) {
+            for (Method method : of.getDeclaredMethods()) {
+                boolean hidden = Modifier.isPrivate(method.getModifiers());
+                DUE.is(method + " has a name of its own", hidden && face.contains(method.getName()) ? 0 : 1, 1);
+            }
+            int fields = 0;
+            for (Field field : of.getDeclaredFields()) {
+                boolean constant = Modifier.isStatic(field.getModifiers());
+                fields += constant ? 0 : 1;
+                DUE.is(field + " is final, if it is static", constant && !Modifier.isFinal(field.getModifiers()) ? 0 : 1, 1);
+            }
+            DUE.is(of + " has few fields", fields <= 20 ? 1 : 0, 1);
+        }
     }
 
     private static void none(String code, String pattern, String rule) {
